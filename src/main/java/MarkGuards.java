@@ -670,26 +670,26 @@ public final class MarkGuards {
             place = next;
             if (next >= end) {
                 kind = Kind.END;
-            } else if (isLetter(next)) {
+            } else if (isLetter(tape[next])) {
                 readWord();
-            } else if (isDigit(next)) {
+            } else if (isDigit(tape[next])) {
                 readNumber();
             } else {
                 readSign();
             }
         }
 
-        private boolean isLetter(int at) {
-            return at >= 0 && at < end && tape[at] >= 'a' && tape[at] <= 'z';
+        private static boolean isLetter(int sign) {
+            return sign >= 'a' && sign <= 'z';
         }
 
-        private boolean isDigit(int at) {
-            return at >= 0 && at < end && tape[at] >= '0' && tape[at] <= '9';
+        private static boolean isDigit(int sign) {
+            return sign >= '0' && sign <= '9';
         }
 
         private void readWord() {
             letters = 0;
-            while (isLetter(next)) {
+            while (next < end && isLetter(tape[next])) {
                 if (next - place < MOST_LETTERS) {
                     letters = Kind.withLetter(letters, next - place, tape[next]);
                 }
@@ -700,7 +700,7 @@ public final class MarkGuards {
 
         private void readNumber() {
             number = 0;
-            while (isDigit(next)) {
+            while (next < end && isDigit(tape[next])) {
                 // what is above every bound stays so, however many digits come
                 number = Math.min(number * 10 + tape[next] - '0', 10 * MOST_SEED);
                 next++;

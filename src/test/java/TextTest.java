@@ -228,6 +228,16 @@ public final class TextTest {
         Due.same("eight open", Due.of("law out (((((((( 9999 ))))))))*((((((((1))))))));").count(3), 3);
         Due.same("of each E anew", Due.of("law out ((((((((1))))))));law turn ((((((((1))))))));").count(3), 2);
         Due.same("not behind not and (", Due.of("law out not not (not 1) and not 2 or not 3;").count(3), 10);
+        MarkGuards x = new MarkGuards();
+        Due.feed(x, "law out 1<=2;");
+        Due.same("what is behind n doesn't count", x.text(10), -1);
+        Due.same("its place is the length", x.fault(1), 10);
+        Due.feed(x, "law out 12345;");
+        Due.same("nor do digits behind n", x.text(12), -1);
+        Due.same("a sign is missing", x.fault(0) * 100 + x.fault(1), 112);
+        Due.feed(x, "block ab 1 1;");
+        Due.same("nor do letters", x.text(7), -1);
+        Due.same("a number is missing", x.fault(0) * 100 + x.fault(1), 107);
         Due.same("each comparison", Due.of("law out (1<2)+(1<=2)+(1=2)+(1<>2)+(1>=2)+(1>2);").count(3), 23);
     }
 
