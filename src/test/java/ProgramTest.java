@@ -164,6 +164,12 @@ public final class ProgramTest {
         value("0 and 0 or 1", 1);
         value("not (0 and 0) + 1", 0);
         value("0001", 1);
+        StringBuilder deepest = new StringBuilder();
+        for (int i = 0; i < 63; i++) {
+            deepest.append(i < 8 ? "(" : "").append("not ");
+        }
+        value(deepest + "7))))))))", 0);
+        value("1" + "+(1".repeat(8) + "-1".repeat(23) + "))))))))", 9 - 23);
     }
 
     private static void errors() {
