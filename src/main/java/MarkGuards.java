@@ -1378,7 +1378,6 @@ public final class MarkGuards {
 
         void copyFrom(Laws other) {
             knots = other.knots;
-            written = other.written;
             System.arraycopy(other.kinds, 0, kinds, 0, MOST_KNOTS);
             System.arraycopy(other.numbers, 0, numbers, 0, MOST_KNOTS);
             System.arraycopy(other.starts, 0, starts, 0, RULES);
@@ -1391,7 +1390,6 @@ public final class MarkGuards {
 
         void beginRule(int rule) {
             starts[rule] = written;
-            ends[rule] = written;
         }
 
         void endRule(int rule) {

@@ -55,6 +55,10 @@ public final class ModelTest {
 
     private String program() {
         StringBuilder text = new StringBuilder();
+        boolean lawsFirst = often(30);
+        if (lawsFirst) {
+            laws(text);
+        }
         blocks = often(5) ? 0 : 1 + below(8);
         int few = often(50) ? 4 : 256;
         for (int b = 0; b < blocks; b++) {
@@ -85,7 +89,9 @@ public final class ModelTest {
             }
         }
         settings(text);
-        laws(text);
+        if (!lawsFirst) {
+            laws(text);
+        }
         return text.toString();
     }
 
@@ -155,15 +161,15 @@ public final class ModelTest {
     }
 
     private void play() {
-        if (often(30)) {
+        if (often(40)) {
             for (int i = 0; i < 8; i++) {
-                read(spoilt(program()));
+                read(often(40) ? program() : spoilt(program()));
             }
         }
         read(program());
         while (calls < CALLS) {
-            if (often(1)) {
-                read(often(40) ? program() : spoilt(program()));
+            if (often(2)) {
+                read(often(50) ? program() : spoilt(program()));
             }
             callRun();
             callLook();
@@ -288,6 +294,9 @@ public final class ModelTest {
         same("edge " + e + " " + what, x.edge(e, what % 4), y.edge(e, what % 4));
         same("base " + b, x.base(b), y.base(b));
         same("diff " + b, x.diff(b), y.diff(b));
+        if (often(30)) {
+            same("tried 2 " + b, x.tried(2, b, 9), y.tried(2, b, 9));
+        }
         same("law " + what % 4 + " " + b, x.law(what % 4, b), y.law(what % 4, b));
         int letters = often(80) ? packed(NAMES[below(8)]) : below(1 << 30);
         same("named " + letters, x.named(letters), y.named(letters));

@@ -378,6 +378,11 @@ public final class RunTest {
         MarkGuards checked = Due.of("block a 1 5;block b 2 7;block c 4 9;edge a b;edge b b;check b;jump 50;law land 1+place/2;");
         checked.sign(0, 8);
         Due.same("with CHECKS", checked.tried(2, 2, 2), 14);
+        y.tried(2, 2, 2);
+        Due.same("law isn't tried so", y.law(0, 2), 91);
+        y.tried(2, 2, 2);
+        y.jump(2);
+        Due.same("nor is jump", y.count(8), 91);
         for (int what = 0; what < 5; what++) {
             Due.same("tried(" + what + ", 0, 0)", x.tried(what, 0, 0), 0);
             Due.same("tried(" + what + ", 0, -1)", x.tried(what, 0, -1), -1);

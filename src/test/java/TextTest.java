@@ -7,6 +7,7 @@ public final class TextTest {
         newObject();
         feeding();
         reading();
+        readingAnew();
         stayingWithFault();
         tokens();
         tooMuch();
@@ -81,6 +82,36 @@ public final class TextTest {
         Due.same("an empty text", x.text(0), 0);
         Due.same("no BLOCKS", x.count(5), -2);
         Due.same("no MARK", x.count(6), 0);
+    }
+
+    /** Nothing of a text that was read ahead is left in the next one. */
+    private static void readingAnew() {
+        MarkGuards x = Due.of("block p 1 1;block q 2 2;edge p q;edge q p;edge p p;limit 1;jump 75;seed 4;base p p;"
+            + "check p;law out 5;law turn 0;law land 1;");
+        x.go(20);
+        x.jump(0);
+        Due.same("THREE behind it", Due.read(x, THREE.substring(0, THREE.indexOf("limit"))), 8);
+        Due.same("limit is 10 again", x.cover(2), 6);
+        Due.same("jump is 0 again", x.holds(1, 0), 1);
+        Due.same("BASE", x.base(0), 2);
+        Due.same("EDGES to a", x.block(0, 5), 1);
+        Due.same("no laws", x.law(0, 0) == x.law(1, 0) && x.law(1, 0) == x.law(2, 0), true);
+        Due.same("KNOTS", x.count(3), 0);
+        x.go(4);
+        Due.same("TOTAL by WORK", x.count(8), 30);
+        for (int i = 0; i < 40; i++) {
+            Due.same("a law again and again", Due.read(x, "block a 1 7;law out " + sum(20) + "*work;"), 2);
+            Due.same("its value", x.law(0, 0), 19 + 7);
+            Due.read(x, "law out " + sum(30) + ";law;");
+        }
+        Due.read(x, THREE);
+        x.go(2);
+        Due.same("ADJUST", x.count(7), 3);
+        Due.feed(x, THREE);
+        Due.same("text(0) of a TAPE that isn't empty", x.text(0), 0);
+        Due.same("without BLOCKS: ADJUST", x.count(7), 0);
+        Due.same("without BLOCKS: MARK", x.count(6), 0);
+        Due.same("the TAPE is empty", x.text(1), -2);
     }
 
     private static void stayingWithFault() {
