@@ -23,7 +23,7 @@ public final class MarkGuards {
     private static final int MOST_SEED = 99999;
     private static final int MOST_NUMBER = 9999;
     private static final int MOST_STEPS = 200;
-    private static final int LAST_START = 9800;
+    private static final int LAST_STEP = 9800;
     private static final int MOST_COMING = 199;
     private static final int MOST_TAKEN = 9;
     private static final int MOST_HELD = 6;
@@ -222,7 +222,7 @@ public final class MarkGuards {
     }
 
     public int go(int n) {
-        if (!within(n, 0, MOST_STEPS) || run.step > LAST_START) {
+        if (!within(n, 0, MOST_STEPS) || run.step + n > LAST_STEP) {
             return NONE;
         }
         if (n > 0) {

@@ -789,7 +789,7 @@ final class Model {
     }
 
     int go(int n) {
-        if (n < 0 || n > 200 || now.step > 9800) {
+        if (n < 0 || n > 200 || now.step + n > 9800) {
             return -1;
         }
         Manner m = new Manner();

@@ -133,16 +133,32 @@ public final class RunTest {
         }
         Due.same("STEP 9800", x.count(4), 9800);
         Due.same("go(0) at 9800", x.go(0), 9800);
-        Due.same("go(1) at 9800", x.go(1), 9801);
-        Due.same("go(1) behind 9800", x.go(1), -1);
-        Due.same("go(0) behind 9800", x.go(0), -1);
-        Due.same("none goes by", x.count(4), 9801);
-        MarkGuards y = Due.of(THREE);
-        for (int i = 1; i <= 49; i++) {
-            y.go(200);
+        Due.same("go(1) at 9800", x.go(1), -1);
+        Due.same("go(200) at 9800", x.go(200), -1);
+        Due.same("none goes by", x.count(4), 9800);
+        Due.same("ahead of 9800", x.ahead(200, 2), x.tried(0, 0, 200));
+        nearTheLastStep();
+    }
+
+    /** What doesn't all fit in ahead of 9800 doesn't go by at all, and so leaves what can be undone. */
+    private static void nearTheLastStep() {
+        MarkGuards x = Due.of(THREE);
+        for (int i = 1; i <= 48; i++) {
+            x.go(200);
         }
-        Due.same("go(200) at 9800", y.go(200), 10000);
-        Due.same("ahead behind 9800", y.ahead(200, 4), 0);
+        x.go(60);
+        x.check(0);
+        int place = x.count(5);
+        int total = x.count(8);
+        Due.same("go(141) at 9660", x.go(141), -1);
+        Due.same("no STEP of these", x.count(4), 9660);
+        Due.same("one stands where one stood", x.count(5), place);
+        Due.same("no TOTAL more", x.count(8), total);
+        Due.same("it can still be undone", x.undo(), 0);
+        Due.same("go(139) at 9660", x.go(139), 9799);
+        Due.same("go(2) at 9799", x.go(2), -1);
+        Due.same("go(1) at 9799", x.go(1), 9800);
+        Due.same("go(1) at 9800", x.go(1), -1);
     }
 
     /** Numbers from seed 1 on: 16838, 5758, 10113, 17515, 31051, 5627. */
@@ -239,12 +255,12 @@ public final class RunTest {
         x.go(1);
         Due.same("TOTAL stays", x.count(8), 999999);
         Due.same("TOTAL more", x.ahead(5, 2), 0);
-        for (int i = 0; i < 44; i++) {
+        for (int i = 0; i < 43; i++) {
             x.go(200);
         }
-        Due.same("VISITS", x.block(0, 3), 9802);
-        x.go(0);
-        for (int i = 0; i < 197; i++) {
+        x.go(198);
+        Due.same("VISITS", x.block(0, 3), 9800);
+        for (int i = 0; i < 199; i++) {
             x.jump(0);
         }
         Due.same("VISITS are 9999", x.block(0, 3), 9999);
