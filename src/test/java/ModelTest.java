@@ -167,6 +167,9 @@ public final class ModelTest {
             }
         }
         read(program());
+        if (often(15)) {
+            hurry();
+        }
         while (calls < CALLS) {
             if (often(2)) {
                 read(often(50) ? program() : spoilt(program()));
@@ -176,6 +179,17 @@ public final class ModelTest {
         }
         for (int what = 0; what < 15; what++) {
             same("count(" + what + ") at the end", x.count(what), y.count(what));
+        }
+    }
+
+    /** Towards the last STEP and over its edge, so that the rest of the run is near it. */
+    private void hurry() {
+        for (int i = 0; i < 80; i++) {
+            int n = often(85) ? 120 + below(81) : below(20);
+            same("go " + n, x.go(n), y.go(n));
+        }
+        for (int what = 4; what <= 11; what++) {
+            same("count(" + what + ") near the last STEP", x.count(what), y.count(what));
         }
     }
 
