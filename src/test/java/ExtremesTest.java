@@ -6,6 +6,8 @@ import java.util.NoSuchElementException;
 /** Whatever numbers a call is given, in whatever state: nothing is thrown but what block promises. */
 public final class ExtremesTest {
     private static final int[] NUMBERS = {Integer.MIN_VALUE, -1, 0, 1, 7, 8, 16, 24, 256, Integer.MAX_VALUE};
+    /** Of 512, an object's most, some are for the text and the notes. */
+    private static final int CALLS = 400;
     private static final int[] FEW = {Integer.MIN_VALUE, 0, Integer.MAX_VALUE};
     private static final String FULL = fullProgram();
     private static final String[] PROGRAMS = {
@@ -42,12 +44,11 @@ public final class ExtremesTest {
         for (int i = 0; i < count; i++) {
             all *= numbers.length;
         }
-        MarkGuards x = Due.of(program);
-        x.go(3);
-        for (int i = 0; i < 24 && m.getName().length() > 4; i++) {
-            x.note(0, 1, true);
-        }
+        MarkGuards x = prepared(program, m);
         for (int k = 0; k < all; k++) {
+            if (k % CALLS == CALLS - 1) {
+                x = prepared(program, m);
+            }
             Object[] given = new Object[count];
             int rest = k;
             for (int i = 0; i < count; i++) {
@@ -57,6 +58,15 @@ public final class ExtremesTest {
             }
             call(x, m, given);
         }
+    }
+
+    private static MarkGuards prepared(String program, Method m) {
+        MarkGuards x = Due.of(program);
+        x.go(3);
+        for (int i = 0; i < 24 && m.getName().length() > 4; i++) {
+            x.note(0, 1, true);
+        }
+        return x;
     }
 
     private static void call(MarkGuards x, Method m, Object[] given) throws IllegalAccessException {

@@ -125,6 +125,10 @@ public final class LooksBoundsTest {
         // c is entered with ADJUST 0 from a and with ADJUST 3 from b: two STATES
         Due.same("a, b, c, c", Due.of(THREE).beyond(0, 0), 4);
         Due.same("SIGNS of a and b alike: a, b, c", Due.of(THREE.replace("block b 2", "block b 1")).beyond(0, 0), 3);
+        // c by the first EDGE and by the second one with ADJUST 0: one STATE
+        String alike = "block a 1 0;block b 1 0;block c 4 0;edge a c;edge b c;edge c a;edge a b;";
+        Due.same("a, c, b", Due.of(alike).beyond(0, 0), 3);
+        Due.same("a, c, b, c", Due.of(alike.replace("block b 1", "block b 2")).beyond(0, 0), 4);
         // landed in b with ADJUST 3, b is entered with ADJUST 0 later on
         Due.same("b, c, a, b, c", Due.of(THREE).beyond(2, 1), 5);
         Due.same("no JUMPS", Due.of(THREE + "jump 100;").beyond(2, 1), 5);
@@ -230,6 +234,8 @@ public final class LooksBoundsTest {
         checksOf(RING + "limit 7;", 0x03, 56);
         checksOf(RING + "limit 8;", 1, 56);
         checksOf(RING + "check c;check d;limit 8;", 1, 56);
+        // one SLIP alone doesn't LOOK RIGHT: by a -> a into b
+        checksOf("block a 1 0;block b 2 0;edge a a;", 2, 1);
         // the end of a chain needs its own
         checksOf(CHAIN + "limit 8;", 128, 49);
         checksOf(CHAIN + "limit 7;", 129, 49);
@@ -247,6 +253,46 @@ public final class LooksBoundsTest {
         Due.same("all alike", Due.of(full().replaceAll("(block .) .", "$1 0")).bases(), 112);
         MarkGuards x = Due.of(full());
         Due.so("at most as many as now", x.bases() <= x.cover(1));
+        everyChoice("aa ba ca ab bb cb ac bc cc", 1, 2, 4);
+        everyChoice("aa ba ca ab bb cb ac bc cc", 1, 1, 4);
+        everyChoice("ab ac ba bd ca cb da dc", 1, 2, 3, 3);
+        everyChoice("ab ac ba bd ca cb da dc", 5, 2, 5, 7);
+        everyChoice("cb ab bc ac ba ca", 1, 2, 3);
+        everyChoice("ba ca cb ab", 6, 6, 3);
+        everyChoice("ba ca ab ac", 1, 2, 3);
+        everyChoice("ba ca ab ac", 1, 3, 1);
+        everyChoice("ba ca ab bc", 5, 5, 3);
+        everyChoice("ab bb ac bc", 9, 3, 3);
+        everyChoice("ac bc ad bd", 1, 2, 4, 8);
+        everyChoice("ac bc ad bd ab bb", 7, 2, 5, 0);
+    }
+
+    /** The fewest of what cover(1) tells of each way to tell BASES. */
+    private static void everyChoice(String edges, int... signs) {
+        StringBuilder text = new StringBuilder();
+        for (int b = 0; b < signs.length; b++) {
+            text.append("block ").append((char) ('a' + b)).append(' ').append(signs[b]).append(" 0;");
+        }
+        for (String edge : edges.split(" ")) {
+            text.append("edge ").append(edge.charAt(0)).append(' ').append(edge.charAt(1)).append(';');
+        }
+        int bases = Due.of(text.toString()).bases();
+        Due.same("BASES of " + text, bases, fewest(text.toString(), edges.split(" "), 0, signs.length, bases));
+    }
+
+    private static int fewest(String text, String[] edges, int block, int blocks, int bases) {
+        if (block == blocks) {
+            Due.same("BASES, whatever is told: " + text, Due.of(text).bases(), bases);
+            return Due.of(text).cover(1);
+        }
+        int fewest = Integer.MAX_VALUE;
+        for (String edge : edges) {
+            if (edge.charAt(1) - 'a' == block) {
+                String told = text + "base " + edge.charAt(1) + " " + edge.charAt(0) + ";";
+                fewest = Math.min(fewest, fewest(told, edges, block + 1, blocks, bases));
+            }
+        }
+        return fewest < Integer.MAX_VALUE ? fewest : fewest(text, edges, block + 1, blocks, bases);
     }
 
     private static void only() {
@@ -472,6 +518,15 @@ public final class LooksBoundsTest {
         String checked = jumping + "law land 2-place/2;";
         Due.same("with CHECKS", Due.of(checked).ahead(2, 2), 18);
         Due.same("no CHECKS", Due.of(checked).tried(1, 0, 2), 16);
+        for (int what : new int[] {2, 3, 4}) {
+            Due.same("with CHECKS, tried(" + what + ", 0, 2)", Due.of(checked).tried(what, 0, 2), 18);
+        }
+        MarkGuards x = Due.of("block a 1 5;block b 2 7;edge a b;edge b a;check a;law out mark;");
+        x.jump(1);
+        x.jump(1);
+        Due.same("MARK is wrong", x.count(6), 1);
+        Due.same("the ENTRY alarms: MARK is 2, then b's SIGN", x.ahead(2, 2), 4);
+        Due.same("it has no CHECK: MARK is 2, then 1", x.tried(1, 0, 2), 3);
         Due.says("Part 3", "2 BLOCK i has WORK 0 (work, too),");
         Due.same("b has", Due.of(THREE).tried(2, 1, 2), 9);
         Due.same("c has", Due.of(THREE).tried(2, 2, 2), 7);

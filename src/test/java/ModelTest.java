@@ -8,8 +8,10 @@ public final class ModelTest {
         "+", "-", "*", "/", "<", "<=", "=", "<>", ">=", ">", "0", "1", "99", "256", "9999", "10000", "a", "b",
         "toolong", "sixsix", "#", " ", "\n", "A", "\u00e9", "\0"};
     private static final String[] NAMES = {"a", "bc", "d", "efg", "h", "zzzzzz", "bcd", "lawa"};
-    private static final int RUNS = 400;
-    private static final int CALLS = 500;
+    private static final int RUNS = 500;
+    /** Behind these a text may still be read and all be counted: 512 calls are an object's most. */
+    private static final int CALLS = 420;
+    private static final int CALLS_OF_TEXTS = 300;
 
     private final Random random;
     private final int run;
@@ -162,12 +164,12 @@ public final class ModelTest {
 
     private void play() {
         if (often(40)) {
-            for (int i = 0; i < 8; i++) {
+            for (int i = 0; i < 8 && calls < CALLS_OF_TEXTS; i++) {
                 read(often(40) ? program() : spoilt(program()));
             }
         }
         read(program());
-        if (often(15)) {
+        if (often(15) && calls < CALLS_OF_TEXTS) {
             hurry();
         }
         while (calls < CALLS) {

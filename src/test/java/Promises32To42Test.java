@@ -375,11 +375,30 @@ public final class Promises32To42Test {
         Due.same("nothing to undo", x.undo(), -1);
         x.check(0);
         Due.same("to undo again", x.undo(), 0);
+        endsAndAdjust();
         MarkGuards none = new MarkGuards();
         none.keep();
         none.go(9);
         Due.same("without BLOCKS", none.back(), 0);
         Due.same("the STEP", none.count(4), 0);
+    }
+
+    private static void endsAndAdjust() {
+        // a -> b, b -> c with ADJUST 3, the END
+        MarkGuards x = Due.of("block a 1 5;block b 2 7;block c 4 9;edge a b;edge a c;edge b c;base c a;law turn 0;");
+        x.go(5);
+        Due.same("an END, ADJUST 3", x.count(11) * 10 + x.count(7), 13);
+        x.keep();
+        x.go(1);
+        Due.same("two ENDS, ADJUST 0", x.count(11) * 10 + x.count(7), 20);
+        x.back();
+        Due.same("as in the IMAGE", x.count(11) * 10 + x.count(7), 13);
+        x.sign(0, 77);
+        x.check(2);
+        Due.same("an ALARM", x.jump(2), false);
+        Due.same("ADJUST 0", x.count(7), 0);
+        x.undo();
+        Due.same("undone", x.count(11) * 10 + x.count(7), 13);
     }
 
     private static void nothingToGoBackTo() {
@@ -470,5 +489,26 @@ public final class Promises32To42Test {
             x.count(n);
             return 0;
         }, 0, 1, 2);
+        for (int what = 0; what < 5; what++) {
+            MarkGuards x = Due.of(THREE + "law out work;law turn visits;");
+            MarkGuards y = Due.of(THREE + "law out work;law turn visits;");
+            int i = what == 2 ? 2 : 0;
+            x.tried(what, i, 5);
+            Due.same("law behind tried(" + what + ")", x.law(0, 2), y.law(0, 2));
+            x.tried(what, i, 5);
+            Due.same("comes behind tried(" + what + ")", x.comes(2), y.comes(2));
+            x.tried(what, i, 5);
+            Due.same("ahead behind tried(" + what + ")", x.ahead(6, 2), y.ahead(6, 2));
+            x.tried(what, i, 5);
+            Due.same("chance behind tried(" + what + ")", x.chance(1, 9), y.chance(1, 9));
+            x.tried(what, i, 5);
+            x.jump(2);
+            y.jump(2);
+            Due.same("jump behind tried(" + what + ")", x.count(8), y.count(8));
+            x.tried(what, i, 5);
+            x.go(9);
+            y.go(9);
+            Due.same("go behind tried(" + what + ")", x.count(8) * 10 + x.count(5), y.count(8) * 10 + y.count(5));
+        }
     }
 }

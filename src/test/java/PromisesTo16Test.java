@@ -153,6 +153,28 @@ public final class PromisesTo16Test {
         counts("empty", x, 0, 0, 0, 0, 0, -2, 0, 0, 0, 0, 0, 0, 0, 0, 0);
         Due.same("no IMAGE", x.back(), -1);
         Due.same("nothing to undo", x.undo(), -1);
+        MarkGuards ended = Due.of("block a 9 1;limit 1;jump 1;seed 5;");
+        ended.go(3);
+        Due.same("ENDS", ended.count(11), 3);
+        Due.read(ended, THREE);
+        Due.same("no ENDS anew", ended.count(11), 0);
+        Due.same("limit 10 again", ended.cover(2), 6);
+        Due.same("jump 0 again", ended.holds(1, 0), 1);
+        MarkGuards seeded = Due.of("seed 5;");
+        Due.read(seeded, "block a 1 1;block b 1 1;edge a a;edge b b;jump 100;");
+        Numbers numbers = new Numbers(0);
+        for (int i = 0; i < 20; i++) {
+            seeded.go(1);
+            Due.same("the seed is 0 again", seeded.count(5), numbers.next() % 2);
+        }
+        Twin.makeRich(x);
+        x.go(1);
+        for (int i = 0; i < 9 && x.count(7) == 0; i++) {
+            x.go(1);
+        }
+        Due.so("ADJUST isn't 0", x.count(7) != 0);
+        x.text(0);
+        Due.same("ADJUST 0 without BLOCKS", x.count(7), 0);
         MarkGuards a = Due.of(Twin.TEXT);
         MarkGuards b = new MarkGuards();
         Twin.makeRich(b);
@@ -195,6 +217,15 @@ public final class PromisesTo16Test {
             twin.both(Twin::makeRich);
             Due.same("text of " + text, Due.read(twin.tried, text), -1);
             twin.alike("text of " + text, false);
+        }
+        String[] formulas = {"law out (1+(2*", "law out not not (((((((1", "law out 1 or 2 and not", "law out ((((((((1",
+            "law out ((((((((1)))))))", "law out 1<2<"};
+        for (String text : formulas) {
+            MarkGuards y = Due.of("block a 3 1;law out mark;");
+            Due.same("text of " + text, Due.read(y, text), -1);
+            Due.same("the law stays", y.law(0, 0), 3);
+            Due.same("nothing is left of it", Due.read(y, "block a 1 1;law out ((((((((4))))))))+1;law turn 7;"), 3);
+            Due.same("the law", y.law(0, 0) * 10 + y.law(1, 0), 57);
         }
         MarkGuards x = new MarkGuards();
         Due.same("of a new object", Due.read(x, "block"), -1);

@@ -82,6 +82,7 @@ public final class StepsBoundsTest {
             at("at first", x, 0, sign, 0);
             Due.same("VISITS of the ENTRY", x.block(0, 3), 0);
             Due.same("no TOTAL by that", x.count(8), 0);
+            at("at first, one BLOCK", Due.of("block a " + sign + " 9;"), 0, sign, 0);
         }
     }
 
@@ -382,6 +383,7 @@ public final class StepsBoundsTest {
     private static void value(String formula, long due) {
         MarkGuards x = Due.of("block a 1 5;law out " + formula + ";law turn 1;");
         Due.same("law out " + formula, x.law(0, 0), due);
+        Due.same("law turn 1 behind law out " + formula, x.law(1, 0), 1);
     }
 
     private static void values() {

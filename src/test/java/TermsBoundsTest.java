@@ -376,6 +376,8 @@ public final class TermsBoundsTest {
         Due.same("the only one", Due.right(blocks(2) + "edge a b;base b a;", 4).base(1), 0);
         Due.faulty(3, blocks(3) + "edge a c;edge b c;base c b;base ^c a;");
         Due.faulty(3, blocks(3) + "edge a c;edge b c;base c b;base ^c b;");
+        Due.faulty(3, blocks(3) + "edge a c;edge b c;base c a;base ^c a;");
+        Due.faulty(3, blocks(3) + "edge a c;edge b c;base c a;base ^c b;");
         Due.faulty(5, blocks(2) + "edge a b;base a ^b;");
         Due.faulty(5, blocks(2) + "edge a a;base b ^a;");
         Due.faulty(5, blocks(3) + "edge a c;base c ^b;edge b c;");
@@ -600,6 +602,7 @@ public final class TermsBoundsTest {
         Due.faulty(3, AB + "base a b;base ^a b;");
         Due.faulty(3, AB + "base a b;base ^a z;");
         Due.faulty(3, AB + "base a b;base ^a");
+        Due.faulty(3, AB + "base b a;base ^b a;");
         Due.right(AB + "check a;check b;base a b;base b a;", 8);
         Due.says("Terms", "limit, jump, seed (at the word),");
         for (String setting : new String[] {"limit", "jump", "seed"}) {
