@@ -1562,6 +1562,7 @@ public final class MarkGuards {
         private static final int MOST_TOTAL = 999999;
         private static final int MOST_OUTPUT = 999;
         private static final int LIKELY_ODDS = 50;
+        private static final long LOW_31_BITS = 0x7fffffffL;
         private static final int NAMES = 7;
 
         private final Program program;
@@ -1658,7 +1659,7 @@ public final class MarkGuards {
         }
 
         private static int draw(Run run) {
-            run.number = run.number * 1103515245L + 12345L & Integer.MAX_VALUE;
+            run.number = run.number * 1103515245L + 12345L & LOW_31_BITS;
             return (int) (run.number / 65536L);
         }
 

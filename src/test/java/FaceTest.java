@@ -4,19 +4,12 @@ import java.lang.reflect.Method;
 import java.lang.reflect.Modifier;
 import java.util.Arrays;
 import java.util.TreeSet;
+import java.util.regex.Matcher;
+import java.util.regex.Pattern;
 
 /** The public face is the document's, and nothing else of the class is to be seen. */
 public final class FaceTest {
-    private static final String[] FACE = {
-        "int feed(int,int,int,int,int)", "int text(int)", "int fault(int)", "int named(int)", "int block(int,int)",
-        "int edge(int,int)", "int base(int)", "int diff(int)", "long law(int,int)", "boolean jump(int)",
-        "int check(int)", "int sign(int,int)", "int go(int)", "int ahead(int,int)", "int comes(int)",
-        "int slip(int,int)", "int caught(int,int)", "int soonest(int,int)", "int beyond(int,int)", "int cover(int)",
-        "int checks(int)", "int bases()", "int only(int)", "int far(int,int)", "int ring(int)", "int nearest(int)",
-        "int leaders(int,int,int)", "long holds(int,int)", "int ways(int,int)", "int alike()",
-        "int note(int,int,boolean)", "int strike(int)", "boolean known(int)", "int signs(int)", "int ask(int,int)",
-        "int chance(int,int)", "int tried(int,int,int)", "int undo()", "int keep()", "int back()", "int count(int)",
-    };
+    private static final Pattern PROMISED = Pattern.compile("public (int|long|boolean) (\\w+)\\(([^)]*)\\)( throws [^;]*)?;");
 
     public static void main(String[] args) {
         methods();
@@ -25,13 +18,30 @@ public final class FaceTest {
         Due.finish();
     }
 
-    private static String told(Method m) {
-        StringBuilder text = new StringBuilder(m.getReturnType().getName()).append(' ').append(m.getName()).append('(');
-        Class<?>[] types = m.getParameterTypes();
-        for (int i = 0; i < types.length; i++) {
-            text.append(i > 0 ? "," : "").append(types[i].getName());
+    /** The methods that the document's face has, without the names of their parameters. */
+    private static TreeSet<String> promised() {
+        TreeSet<String> face = new TreeSet<>();
+        Matcher m = PROMISED.matcher(Document.sections().get("The public face"));
+        while (m.find()) {
+            String types = m.group(3).replaceAll(" \\w+(?=,|$)", "").replace(", ", ",");
+            String thrown = m.group(4) == null ? "" : m.group(4).replace(", ", ",");
+            face.add(m.group(1) + " " + m.group(2) + "(" + types + ")" + thrown);
         }
-        return text.append(')').toString();
+        return face;
+    }
+
+    private static String told(Method m) {
+        String types = names(m.getParameterTypes());
+        String thrown = names(m.getExceptionTypes());
+        return m.getReturnType().getName() + " " + m.getName() + "(" + types + ")" + (thrown.isEmpty() ? "" : " throws " + thrown);
+    }
+
+    private static String names(Class<?>[] types) {
+        StringBuilder text = new StringBuilder();
+        for (Class<?> type : types) {
+            text.append(text.length() > 0 ? "," : "").append(type.getSimpleName());
+        }
+        return text.toString();
     }
 
     private static void methods() {
@@ -44,7 +54,8 @@ public final class FaceTest {
                 publicNames.add(m.getName());
             }
         }
-        Due.so("the face is " + shown, shown.equals(new TreeSet<>(Arrays.asList(FACE))));
+        Due.same("calls of the document's face", promised().size(), 41);
+        Due.so("the face is " + shown + ", due is " + promised(), shown.equals(promised()));
         for (Class<?> c : withInside()) {
             for (Method m : c.getDeclaredMethods()) {
                 boolean own = c == MarkGuards.class && Modifier.isPublic(m.getModifiers());

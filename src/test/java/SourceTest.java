@@ -5,7 +5,7 @@ import java.nio.file.Path;
 import java.util.regex.Matcher;
 import java.util.regex.Pattern;
 
-/** What of LANGUAGE.md the source can show, and how much room an object takes. */
+/** What of LANGUAGE.md the source can show. */
 public final class SourceTest {
     private static final String[] BANNED = {"synchronized", "assert ", "finally", "->", "::", "Exact(", "static {",
         "package ", "System.out", "Random", "Thread", "System.nano", "System.current", "hashCode", "getMessage",
@@ -22,7 +22,6 @@ public final class SourceTest {
             && code.contains("import java.util.NoSuchElementException;"));
         shortMethods(source);
         throwing(code);
-        noObjectsPerCall(code);
         Due.finish();
     }
 
@@ -46,17 +45,6 @@ public final class SourceTest {
         Matcher m = Pattern.compile("throw\\s+([^;]*);").matcher(code);
         while (m.find()) {
             Due.so("throws " + m.group(1), m.group(1).matches("new [A-Za-z]+Exception\\(\"[a-z ]*\"\\)"));
-        }
-    }
-
-    /** Rows are made in fields and constructors alone: no call makes an array or an object but what it throws. */
-    private static void noObjectsPerCall(String code) {
-        Matcher m = Pattern.compile("\n( *)([^\n]*\\bnew\\b[^\n]*)").matcher(code);
-        while (m.find()) {
-            boolean field = m.group(2).contains("final ");
-            boolean constructor = m.group(1).length() == 8 && m.group(2).matches("\\w+ = new \\w+\\([\\w.]*\\);")
-                || m.group(2).equals("before[i] = new Run();");
-            Due.so("made by a call: " + m.group(2), field || constructor || m.group(2).startsWith("throw new"));
         }
     }
 }
